@@ -932,9 +932,12 @@ public final class ShutPasses {
         }
 
         private int roadRows(int doubt, boolean caused, boolean shut) {
+            if (caused && shut) {
+                // the ten of its own doubt, if it has one, may come out as they will
+                return doubt > 0 ? 10 : 1;
+            }
             if (caused) {
-                // its doubt may come out as it will
-                return !shut ? 0 : doubt > 0 ? 10 : 1;
+                return 0;
             }
             if (doubt == 0) {
                 return shut ? 0 : 1;
@@ -993,7 +996,9 @@ public final class ShutPasses {
             for (int round = 0; round <= country.places && changed; round++) {
                 changed = false;
                 for (int place = 0; place < country.places; place++) {
-                    changed |= place != country.goal && shorten(country, line, place);
+                    if (place != country.goal && shorten(country, line, place)) {
+                        changed = true;
+                    }
                 }
             }
         }
@@ -1055,7 +1060,6 @@ public final class ShutPasses {
             country = land;
             likely = odds;
             summing = bySums;
-            int all = country.worlds() - 1;
             for (int known = country.knowns() - 1; known >= 0; known--) {
                 if (likely[known] > 0) {
                     country.fillPasses(passes, codes.open[known], codes.shut[known]);
@@ -1081,7 +1085,9 @@ public final class ShutPasses {
                 for (int place = 0; place < country.places; place++) {
                     boolean settled = place == country.goal
                             || codes.firstMissing(known, country.seenAt[place]) >= 0;
-                    changed |= !settled && improve(place, known);
+                    if (!settled && improve(place, known)) {
+                        changed = true;
+                    }
                 }
             }
         }
@@ -1239,7 +1245,10 @@ public final class ShutPasses {
             return hours >= Ways.FAR ? STAY : hours;
         }
 
-        /** Solves what a plan stands on, once for each land; FAIR stands on SURE. */
+        /**
+         * Solves what a plan stands on, once for each land. FAIR sets out from SURE's times and goes down, while some
+         * plan stays below the least times found so far.
+         */
         void prepare(int plan) {
             if (plan == BEST && !solved[BEST]) {
                 fillEnds(0, 0, 0);
@@ -1251,27 +1260,24 @@ public final class ShutPasses {
                 sure.solve(country, odds.likely, false, ends);
                 solved[SURE] = true;
             }
-            if (plan == FAIR && !solved[FAIR]) {
-                solveFair();
-                solved[FAIR] = true;
+            if (plan != FAIR || solved[FAIR]) {
+                return;
             }
-        }
-
-        /** From the sure plan's times down, while some plan stays below the least times found so far. */
-        private void solveFair() {
+            solved[FAIR] = true;
             if (!gauge(SURE)) {
                 fair.stayEverywhere();
                 return;
             }
-            for (int round = 0; round < MOST_ROUNDS && timesHours > 0; round++) {
-                fillEnds(timesHours, 1, timesKnowing);
-                fair.solve(country, odds.likely, false, ends);
-                if (fair.value(country.start, 0) > 0) {
-                    break;
-                }
-                gauge(FAIR);
+            boolean lower = timesHours > 0;
+            for (int round = 0; round < MOST_ROUNDS && lower; round++) {
+                solveFair(1);
+                lower = fair.value(country.start, 0) <= 0 && gauge(FAIR);
             }
-            fillEnds(timesHours, 0, timesKnowing);
+            solveFair(0);
+        }
+
+        private void solveFair(int less) {
+            fillEnds(timesHours, less, timesKnowing);
             fair.solve(country, odds.likely, false, ends);
         }
 
@@ -1586,8 +1592,8 @@ public final class ShutPasses {
                 other--;
             }
             swap(order, rise, other);
-            for (int low = rise + 1, high = size - 1; low < high; low++, high--) {
-                swap(order, low, high);
+            for (int i = 0; rise + 1 + i < size - 1 - i; i++) {
+                swap(order, rise + 1 + i, size - 1 - i);
             }
             return true;
         }

@@ -19,6 +19,10 @@ public final class BigTest {
             test.hold();
             test.drive();
         }
+        for (int seed = 100; seed < 106; seed++) {
+            Check.about = "seed " + seed;
+            new BigTest(seed).holdRows();
+        }
         Check.end("BigTest");
     }
 
@@ -114,6 +118,52 @@ public final class BigTest {
         }
         Check.due("looking at all for nothing", x.scout(0, 1) <= x.mean(0), true);
         Check.due("looking ahead is free not to", x.scout(99, 1) <= x.mean(0), true);
+    }
+
+    private String text;
+    private ShutPasses tried;
+    private int rows;
+    private long least;
+    private int[] first;
+
+    /** All rows tried one by one, each by row() and mean(5). */
+    private void holdRows() {
+        text = draw();
+        least = -1;
+        tryRows(new int[Check.landed(text).count(2)], 0);
+        ShutPasses x = Check.landed(text);
+        Check.due("rows(0)", x.rows(0), least < 0 ? -2 : least);
+        for (int i = 0; least >= 0 && i < first.length; i++) {
+            Check.due("rows(" + (i + 1) + ")", x.rows(i + 1), first[i]);
+        }
+    }
+
+    private void tryRows(int[] row, int size) {
+        if (size == row.length) {
+            // an object is used for at most 512 calls
+            tried = rows % 40 == 0 ? Check.landed(text) : tried;
+            rows++;
+            tried.clear();
+            for (int road : row) {
+                tried.row(road);
+            }
+            long mean = tried.mean(5);
+            if (mean >= 0 && (least < 0 || mean < least)) {
+                least = mean;
+                first = row.clone();
+            }
+            return;
+        }
+        for (int road = 0; road < row.length; road++) {
+            boolean used = false;
+            for (int i = 0; i < size; i++) {
+                used |= row[i] == road;
+            }
+            if (!used) {
+                row[size] = road;
+                tryRows(row, size + 1);
+            }
+        }
     }
 
     private int number(int most) {

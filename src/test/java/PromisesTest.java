@@ -457,6 +457,7 @@ public final class PromisesTest {
         Check.due("open", Check.landed(NO_WAY).from(0, 1), 25);
         Check.due("without from", Check.landed("place s t;to t;road s t 7;").from(0, 0), 7);
         Check.due("no to", Check.landed("place s t;from s;road s t 7;").from(0, 0), -1);
+        Check.due("to is place 0", Check.landed("place t s;to t;road s t 7;").from(1, 0), 7);
     }
 
     private static void rowAndRows() {
@@ -490,6 +491,12 @@ public final class PromisesTest {
         Check.due("never", never.rows(0), -2);
         Check.due("the first road", never.rows(1), 0);
         Check.due("none further", never.rows(2), -1);
+        ShutPasses six = Check.landed("place s t a b c d e;from s;to t;road s t 4;road s a 1 doubt 5;road s b 1 doubt 5;"
+                + "road s c 1 doubt 5;road s d 1 doubt 5;road s e 1 doubt 5;road a b 1 doubt 5;");
+        Check.due("all are as good", six.rows(0), 4000000);
+        for (int i = 1; i <= 6; i++) {
+            Check.due("the first row by numbers", six.rows(i), i - 1);
+        }
         ShutPasses sure = Check.landed("place s t;from s;to t;road s t 4;");
         Check.due("the empty row", sure.rows(0), 4);
         Check.due("no road", sure.rows(1), -1);
@@ -557,11 +564,14 @@ public final class PromisesTest {
         Check.due("no ring", ends.ring(0), -1);
         Check.due("he is there", Check.landed(THERE).ring(0), -1);
         Check.due("no from", Check.landed("place s;to s;").ring(0), -1);
-        // the doubtful road is shut in each likely world only together with its cause
+        // in world 1, of no weight, he would go round from b to s; in world 3 he stays at b
         ShutPasses second = Check.landed(TOGETHER);
+        second.rule(0, 0, 2, 2);
         second.rule(0, -1, 0, 1);
-        second.rule(1, -1, 0, 3);
-        Check.due("in the first world of weight", second.ring(0), 1);
+        second.rule(1, 0, 1, 3);
+        second.rule(1, 0, 2, 0);
+        second.rule(2, 1, 1, 0);
+        Check.due("in the first world of weight", second.ring(0), 2);
         Check.due("alone", second.ring(1), -1);
     }
 
@@ -602,6 +612,17 @@ public final class PromisesTest {
         Check.due("worth of the other", odd.worth(1), 10);
         Check.due("the least bits", odd.scout(0, 0), 1);
         Check.due("sum", odd.scout(0, 1), 55);
+        // a third road that leads nowhere: both others are worth knowing, and it is not
+        ShutPasses both = Check.landed(TWO.replace("place s a b t", "place s a b t n") + "road t n 1 doubt 5;");
+        Check.due("two roads", both.scout(0, 0), 3);
+        Check.due("two roads' sum", both.scout(0, 1), 2700);
+        // 90 hours straight; the first two if both are open save 60, the third saves 16: for seven hours each as good
+        ShutPasses fewest = Check.landed("place s x y b t;from s;to t;road s t 90;road s x 18;road x y 6 doubt 5;"
+                + "road y t 6 doubt 5;road s b 73;road b t 1 doubt 5;");
+        Check.due("the fewest roads", fewest.scout(7, 0), 4);
+        Check.due("sum", fewest.scout(7, 1), 89000);
+        Check.due("for six hours two, as good as three", fewest.scout(6, 0), 3);
+        Check.due("sum", fewest.scout(6, 1), 87000);
         ShutPasses never = Check.landed(NO_WAY);
         Check.due("never", never.worth(0), -2);
         Check.due("never", never.scout(0, 0), -2);
@@ -639,6 +660,11 @@ public final class PromisesTest {
         Check.due("it is straight already", Check.landed(STRAIGHT.replace("doubt 5", "doubt 9")).edge(0), 11);
         Check.due("what is seen turns nothing", Check.landed(STRAIGHT + "sees s a t;").edge(0), 11);
         Check.due("he is there", Check.landed(THERE).edge(0), 11);
+        // by ten it is never open: what was done on an older land by that known does not count
+        ShutPasses anew = Check.landed(STRAIGHT.replace("t 3", "t 30") + "sees s a t;");
+        Check.due("it is straight", anew.edge(0), 11);
+        Check.land(anew, STRAIGHT.replace("doubt 5", "doubt 9") + "sees s a t;");
+        Check.due("not likely both ways", anew.edge(0), 11);
         Check.due("no doubt", Check.landed(TOGETHER).edge(0), -1);
         Check.due("no such road", Check.landed(STRAIGHT).edge(1), -1);
         Check.due("no such road", Check.landed(STRAIGHT).edge(-1), -1);
