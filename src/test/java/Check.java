@@ -1,3 +1,5 @@
+import java.util.NoSuchElementException;
+
 /** What the project's own tests share: counting wrong answers and feeding texts. */
 final class Check {
     static int wrong = 0;
@@ -41,6 +43,39 @@ final class Check {
         ShutPasses x = new ShutPasses();
         due("land(" + text + ") has no fault", land(x, text) >= 0, true);
         return x;
+    }
+
+    /** The text is refused with this FAULT at this place, and no land comes of it. */
+    static void fault(String text, int kind, int place) {
+        ShutPasses x = new ShutPasses();
+        about = "a fault in: " + text;
+        due("land", land(x, text), -1);
+        due("fault(0)", x.fault(0), kind);
+        due("fault(1)", x.fault(1), place);
+        due("no land", x.count(0), 0);
+    }
+
+    /** The text is a land of so many lines. */
+    static ShutPasses fine(String text, int lines) {
+        ShutPasses x = new ShutPasses();
+        about = "no fault in: " + text;
+        due("land", land(x, text), lines);
+        due("fault(0)", x.fault(0), 0);
+        due("fault(1)", x.fault(1), -1);
+        return x;
+    }
+
+    /** What look() throws: 1 IndexOutOfBoundsException, 2 NoSuchElementException, just these classes; 0 nothing. */
+    static int thrown(ShutPasses x, int road, int what) {
+        try {
+            x.look(road, what);
+            return 0;
+        } catch (IndexOutOfBoundsException | NoSuchElementException e) {
+            if (e.getClass() == IndexOutOfBoundsException.class) {
+                return 1;
+            }
+            return e.getClass() == NoSuchElementException.class ? 2 : 3;
+        }
     }
 
     static void end(String name) {

@@ -7,6 +7,9 @@ public final class OracleTest {
     private final Random random;
     private final Oracle oracle = new Oracle();
     private final StringBuilder text = new StringBuilder();
+    private static int bought;
+    private ShutPasses object;
+    private int calls;
 
     private OracleTest(long seed) {
         random = new Random(seed);
@@ -17,10 +20,15 @@ public final class OracleTest {
         int to = args.length > 1 ? Integer.parseInt(args[1]) : 250;
         for (int seed = from; seed < to; seed++) {
             OracleTest test = new OracleTest(seed);
-            test.draw();
+            if (seed % 5 == 4) {
+                test.drawGates();
+            } else {
+                test.draw();
+            }
             Check.about = "seed " + seed + " " + test.text;
             test.compare();
         }
+        Check.due("many words were bought", bought > 2 * (to - from), true);
         Check.end("OracleTest");
     }
 
@@ -55,17 +63,53 @@ public final class OracleTest {
             text.append("sees ").append(name(p)).append(ends(d)).append(';');
         }
         for (int i = some(0, 3); i > 0 && !oracle.doubtful.isEmpty(); i--) {
-            Oracle.Word word = new Oracle.Word(some(0, oracle.places - 1), some(0, oracle.doubtful.size() - 1),
-                    some(1, most > 4 ? 3 : 1));
-            oracle.words.add(word);
-            text.append("inn ").append(name(word.place())).append(ends(word.road())).append(' ').append(word.hours())
-                    .append(';');
+            tellWord(some(0, oracle.places - 1), some(0, oracle.doubtful.size() - 1), some(1, most > 4 ? 3 : 1));
         }
         boolean plain = random.nextInt(3) > 0;
         oracle.start = plain ? 0 : some(0, oracle.places - 1);
         oracle.goal = plain ? oracle.places - 1 : some(0, oracle.places - 1);
         text.append("to ").append(name(oracle.goal)).append(";from ").append(name(oracle.start)).append(';');
         oracle.weigh(oracle.countRows(-1, 0));
+    }
+
+    /** Gates that lie apart and one sure way: word of them is worth its hour. */
+    private void drawGates() {
+        int gates = some(2, 4);
+        oracle.places = gates + 2;
+        oracle.goal = gates + 1;
+        oracle.start = 0;
+        text.append("place");
+        for (int p = 0; p < oracle.places; p++) {
+            text.append(' ').append(name(p));
+        }
+        int odds = some(1, 9);
+        oracle.causes.add(odds);
+        text.append(";cause z ").append(odds).append(";from k;to ").append(name(oracle.goal)).append(';');
+        for (int gate = 1; gate <= gates; gate++) {
+            int cause = random.nextInt(4) == 0 ? 0 : -1;
+            tellRoad(new Oracle.Road(0, gate, some(2, 6), 0, -1, 0), 'z');
+            tellRoad(new Oracle.Road(gate, oracle.goal, some(1, 6), cause < 0 ? some(2, 8) : some(0, 5), cause,
+                    random.nextInt(3) == 0 ? some(5, 20) : 0), 'z');
+        }
+        tellRoad(new Oracle.Road(0, oracle.goal, some(12, 20), 0, -1, 0), 'z');
+        for (int i = some(1, 4); i > 0; i--) {
+            tellWord(some(0, 2) == 0 ? some(1, gates) : 0, some(0, gates - 1), some(1, 2));
+        }
+        oracle.weigh(oracle.countRows(-1, 0));
+    }
+
+    private void tellWord(int place, int road, int hours) {
+        oracle.words.add(new Oracle.Word(place, road, hours));
+        text.append("inn ").append(name(place)).append(ends(road)).append(' ').append(hours).append(';');
+    }
+
+    /** The first cause has this name, the next one that which follows. */
+    private void tellRoad(Oracle.Road road, char cause) {
+        oracle.addRoad(road);
+        text.append("road ").append(name(road.a())).append(' ').append(name(road.b())).append(' ').append(road.hours());
+        text.append(road.doubt() > 0 ? " doubt " + road.doubt() : "");
+        text.append(road.cause() >= 0 ? " by " + (char) (cause + road.cause()) : "");
+        text.append(road.delay() > 0 ? " wait " + road.delay() : "").append(';');
     }
 
     private String ends(int d) {
@@ -91,120 +135,137 @@ public final class OracleTest {
                     : some(0, oracle.causes.size() - 1);
             int wait = doubt == 0 && cause < 0 || random.nextBoolean() ? 0 : some(1, most + 3);
             int hours = some(1, most);
-            oracle.addRoad(new Oracle.Road(pair[0], pair[1], hours, doubt, cause, wait));
-            text.append("road ").append(name(pair[0])).append(' ').append(name(pair[1])).append(' ').append(hours);
-            text.append(doubt > 0 ? " doubt " + doubt : "");
-            text.append(cause >= 0 ? " by " + (char) ('k' + cause) : "");
-            text.append(wait > 0 ? " wait " + wait : "").append(';');
+            tellRoad(new Oracle.Road(pair[0], pair[1], hours, doubt, cause, wait), 'k');
         }
+    }
+
+    /** An object with the land, its rules and its row for some calls more: each is used for at most 512. */
+    private ShutPasses with(int more) {
+        if (object == null || calls + more > 512) {
+            object = new ShutPasses();
+            Check.due("land", Check.land(object, text.toString()) >= 0, true);
+            calls = (text.length() + 19) / 20 + 1;
+            for (int i = 0; i < oracle.rules.size(); i++) {
+                Check.due("rule", rule(object, oracle.rules.get(i)), i);
+            }
+            for (int i = 0; i < oracle.row.size(); i++) {
+                Check.due("row", object.row(oracle.row.get(i)), i + 1);
+            }
+            calls += oracle.rules.size() + oracle.row.size();
+        }
+        calls += more;
+        return object;
+    }
+
+    private static int rule(ShutPasses x, int[] rule) {
+        return x.rule(rule[0], rule[1], rule[2], rule[3]);
     }
 
     private void compare() {
-        ShutPasses x = new ShutPasses();
-        Check.due("land", Check.land(x, text.toString()) >= 0, true);
         int worlds = oracle.weights.length;
         int knowns = (int) Math.round(Math.pow(3, oracle.doubtful.size()));
         for (int w = 0; w < worlds; w++) {
-            Check.due("weight(" + w + ")", x.weight(w), oracle.weights[w]);
-            Check.due("knowing(" + w + ")", x.knowing(w), oracle.knowing(w));
+            Check.due("weight(" + w + ")", with(1).weight(w), oracle.weights[w]);
+            Check.due("knowing(" + w + ")", with(1).knowing(w), oracle.knowing(w));
         }
-        compareKnowns(x, knowns);
-        setRules(x);
+        compareKnowns(knowns);
+        setRules();
         for (int round = 0; round < 2; round++) {
             for (int plan = 0; plan <= 6; plan++) {
-                comparePlan(x, plan, knowns);
+                comparePlan(plan, knowns);
             }
-            setRow(x);
+            setRow();
         }
-        compareRing(x);
-        compareAdvice(x);
+        compareRing();
+        compareAdvice();
         for (int t = 0; t <= 48; t++) {
-            Check.due("bell(" + t + ")", x.bell(t), oracle.bell(t));
+            Check.due("bell(" + t + ")", with(1).bell(t), oracle.bell(t));
         }
         for (int i = 0; i < 5; i++) {
-            compareWalk(x);
+            compareWalk(with(200));
         }
     }
 
-    private void compareKnowns(ShutPasses x, int knowns) {
+    private void compareKnowns(int knowns) {
         for (int k = 0; k < knowns; k++) {
             String known = oracle.known(k);
-            Check.due("likely(" + k + ")", x.likely(k), oracle.likely(known));
+            Check.due("likely(" + k + ")", with(1).likely(k), oracle.likely(known));
             for (int d = 0; d < oracle.doubtful.size(); d++) {
                 long shut = known.charAt(d) == 'o' ? 0
                         : oracle.likely(known.substring(0, d) + 'x' + known.substring(d + 1));
-                Check.due("shut(" + k + ", " + d + ")", x.shut(k, d), shut);
+                Check.due("shut(" + k + ", " + d + ")", with(1).shut(k, d), shut);
             }
             for (int p = 0; p < oracle.places; p++) {
                 long mean = oracle.likely(known) > 0 ? oracle.bestFrom(p, known) : -1;
-                Check.due("from(" + p + ", " + k + ")", x.from(p, k), mean);
+                Check.due("from(" + p + ", " + k + ")", with(1).from(p, k), mean);
             }
         }
     }
 
-    private void comparePlan(ShutPasses x, int plan, int knowns) {
-        Check.due("mean(" + plan + ")", x.mean(plan), oracle.mean(plan));
-        Check.due("worst(" + plan + ")", x.worst(plan), oracle.worst(plan));
+    private void comparePlan(int plan, int knowns) {
+        Check.due("mean(" + plan + ")", with(1).mean(plan), oracle.mean(plan));
+        Check.due("worst(" + plan + ")", with(1).worst(plan), oracle.worst(plan));
         long[] times = oracle.times(plan);
-        Check.due("times(" + plan + ", 0)", x.times(plan, 0), times[0]);
-        Check.due("times(" + plan + ", 1)", x.times(plan, 1), times[1]);
+        Check.due("times(" + plan + ", 0)", with(1).times(plan, 0), times[0]);
+        Check.due("times(" + plan + ", 1)", with(1).times(plan, 1), times[1]);
         for (int w = 0; w < oracle.weights.length; w++) {
             long hours = oracle.weights[w] > 0 ? oracle.hours(plan, w) : -1;
-            Check.due("hours(" + plan + ", " + w + ")", x.hours(plan, w), hours);
+            Check.due("hours(" + plan + ", " + w + ")", with(1).hours(plan, w), hours);
         }
         for (int k = 0; k < knowns; k++) {
             String known = oracle.known(k);
             for (int p = 0; p < oracle.places; p++) {
                 boolean can = oracle.likely(known) > 0 && oracle.allSeen(p, known);
                 long next = can ? oracle.act(plan, p, known) : -1;
-                Check.due("next(" + plan + ", " + p + ", " + k + ")", x.next(plan, p, k), next);
+                bought += next >= 100 ? 1 : 0;
+                Check.due("next(" + plan + ", " + p + ", " + k + ")", with(1).next(plan, p, k), next);
             }
         }
     }
 
-    private void setRules(ShutPasses x) {
+    private void setRules() {
         int count = some(0, 12);
         for (int i = 0; i < count; i++) {
             int d = oracle.doubtful.isEmpty() || random.nextBoolean() ? -1 : some(0, oracle.doubtful.size() - 1);
             int[] rule = {some(0, oracle.places - 1), d, some(0, 2), some(0, oracle.places - 1)};
+            Check.due("rule", rule(with(1), rule), i);
             oracle.rules.add(rule);
-            Check.due("rule", x.rule(rule[0], rule[1], rule[2], rule[3]), i);
         }
     }
 
-    private void setRow(ShutPasses x) {
+    private void setRow() {
         for (int d = oracle.doubtful.size() - 1; d >= 0; d--) {
             if (oracle.row.contains(d)) {
-                Check.due("row(" + d + ")", x.row(d), -1);
+                Check.due("row(" + d + ")", with(1).row(d), -1);
             } else if (random.nextInt(3) > 0) {
+                Check.due("row(" + d + ")", with(1).row(d), oracle.row.size() + 1);
                 oracle.row.add(d);
-                Check.due("row(" + d + ")", x.row(d), oracle.row.size());
             }
         }
     }
 
-    private void compareRing(ShutPasses x) {
+    private void compareRing() {
         List<Integer> ring = oracle.ring();
         for (int k = 0; k < ring.size(); k++) {
-            Check.due("ring(" + k + ")", x.ring(k), ring.get(k));
+            Check.due("ring(" + k + ")", with(1).ring(k), ring.get(k));
         }
-        Check.due("ring's end", x.ring(ring.size()), -1);
+        Check.due("ring's end", with(1).ring(ring.size()), -1);
     }
 
-    private void compareAdvice(ShutPasses x) {
+    private void compareAdvice() {
         for (int d = 0; d < oracle.doubtful.size(); d++) {
-            Check.due("worth(" + d + ")", x.worth(d), oracle.worth(d));
-            Check.due("keep(" + d + ")", x.keep(d), oracle.keep(d));
-            Check.due("edge(" + d + ")", x.edge(d), oracle.doubtful.get(d).doubt() > 0 ? oracle.edge(d) : -1);
+            Check.due("worth(" + d + ")", with(1).worth(d), oracle.worth(d));
+            Check.due("keep(" + d + ")", with(1).keep(d), oracle.keep(d));
+            Check.due("edge(" + d + ")", with(1).edge(d), oracle.doubtful.get(d).doubt() > 0 ? oracle.edge(d) : -1);
         }
         for (int c : new int[] {0, 1, 2, some(0, 99)}) {
             long[] scout = oracle.scout(c);
-            Check.due("scout(" + c + ", 0)", x.scout(c, 0), scout[0]);
-            Check.due("scout(" + c + ", 1)", x.scout(c, 1), scout[1]);
+            Check.due("scout(" + c + ", 0)", with(1).scout(c, 0), scout[0]);
+            Check.due("scout(" + c + ", 1)", with(1).scout(c, 1), scout[1]);
         }
         List<Long> rows = oracle.rows();
         for (int what = 0; what <= 6; what++) {
-            Check.due("rows(" + what + ")", x.rows(what), what < rows.size() ? rows.get(what) : -1);
+            Check.due("rows(" + what + ")", with(1).rows(what), what < rows.size() ? rows.get(what) : -1);
         }
     }
 

@@ -1,5 +1,3 @@
-import java.util.NoSuchElementException;
-
 /** Each promise by lands small enough to reckon by hand: ordinary answers, the document's edges, wrong inputs. */
 public final class PromisesTest {
     /** One doubtful road behind a; ten hours straight. */
@@ -129,76 +127,62 @@ public final class PromisesTest {
         Check.due("places", x.count(0), 0);
     }
 
-    private static void fault(String text, int kind, int place) {
-        ShutPasses x = new ShutPasses();
-        Check.about = "promise 4: " + text;
-        Check.due("land", Check.land(x, text), -1);
-        Check.due("fault(0)", x.fault(0), kind);
-        Check.due("fault(1)", x.fault(1), place);
-        Check.due("no land", x.count(0), 0);
-    }
-
-    private static void fine(String text, int lines) {
-        Check.about = "promise 3: " + text;
-        Check.due("land", Check.land(new ShutPasses(), text), lines);
-    }
-
     private static void faultsOfTokens() {
-        fault(";", 1, 0);
-        fault("place s;;", 1, 8);
-        fault("place S;", 1, 6);
-        fault("place s-t;", 1, 7);
-        fault("place s\tt;", 1, 7);
-        fault("place abcdefg;", 1, 6);
-        fault("place s abcdefg;", 1, 8);
-        fault("place 7;", 1, 6);
-        fault("place", 1, 5);
-        fault("place s  ", 1, 9);
-        fault("places s;", 1, 0);
-        fault("placefs s;", 1, 0);
-        fault("s;", 1, 0);
-        fault("12;", 1, 0);
-        fault("cause 1 r;", 1, 6);
-        fault("cause r;", 1, 7);
-        fault("cause by 1;", 1, 6);
-        fault("place s t;road s t;", 1, 18);
-        fault("place s t;road s t x;", 1, 19);
-        fault("place s t;road s t 1 2;", 1, 21);
-        fault("place s t;road s t 1 wait 2;", 1, 21);
-        fault("place s t;road s t 1 doubt;", 1, 26);
-        fault("place s t;road s t 1 doubt 1 doubt 1;", 1, 29);
-        fault("place s t;cause r 1;road s t 1 by r doubt 1;", 1, 36);
-        fault("place s t;cause r 1;road s t 1 by 1;", 1, 34);
-        fault("place s t;road s t 1 doubt 1 wait;", 1, 33);
-        fault("place s t;road s t 1 doubt 1 wait 1 wait 1;", 1, 36);
-        fault("place s t;from s t;", 1, 17);
-        fault("place s t;to 5;", 1, 13);
-        fault("place s t;road s t 1 doubt 1;sees s s;", 1, 37);
-        fault("place s t;road s t 1 doubt 1;sees s s t 1;", 1, 40);
-        fault("place s t;road s t 1 doubt 1;inn s s t;", 1, 38);
-        fine("place s t;road s t1doubt1wait1;", 2);
-        fine("place abcdef\nz;cause z 01;road z\nabcdef 0099 doubt 09 by z wait 00001;", 3);
+        Check.fault(";", 1, 0);
+        Check.fault("place s;;", 1, 8);
+        Check.fault("place S;", 1, 6);
+        Check.fault("place s-t;", 1, 7);
+        Check.fault("place s\tt;", 1, 7);
+        Check.fault("place abcdefg;", 1, 6);
+        Check.fault("place s abcdefg;", 1, 8);
+        Check.fault("place 7;", 1, 6);
+        Check.fault("place", 1, 5);
+        Check.fault("place s  ", 1, 9);
+        Check.fault("places s;", 1, 0);
+        Check.fault("placefs s;", 1, 0);
+        Check.fault("s;", 1, 0);
+        Check.fault("12;", 1, 0);
+        Check.fault("cause 1 r;", 1, 6);
+        Check.fault("cause r;", 1, 7);
+        Check.fault("cause by 1;", 1, 6);
+        Check.fault("place s t;road s t;", 1, 18);
+        Check.fault("place s t;road s t x;", 1, 19);
+        Check.fault("place s t;road s t 1 2;", 1, 21);
+        Check.fault("place s t;road s t 1 wait 2;", 1, 21);
+        Check.fault("place s t;road s t 1 doubt;", 1, 26);
+        Check.fault("place s t;road s t 1 doubt 1 doubt 1;", 1, 29);
+        Check.fault("place s t;cause r 1;road s t 1 by r doubt 1;", 1, 36);
+        Check.fault("place s t;cause r 1;road s t 1 by 1;", 1, 34);
+        Check.fault("place s t;road s t 1 doubt 1 wait;", 1, 33);
+        Check.fault("place s t;road s t 1 doubt 1 wait 1 wait 1;", 1, 36);
+        Check.fault("place s t;from s t;", 1, 17);
+        Check.fault("place s t;to 5;", 1, 13);
+        Check.fault("place s t;road s t 1 doubt 1;sees s s;", 1, 37);
+        Check.fault("place s t;road s t 1 doubt 1;sees s s t 1;", 1, 40);
+        Check.fault("place s t;road s t 1 doubt 1;inn s s t;", 1, 38);
+        Check.fine("place s t;road s t1doubt1wait1;", 2);
+        Check.fine("place abcdef\nz;cause z 01;road z\nabcdef 0099 doubt 09 by z wait 00001;", 3);
     }
 
     private static void faultsOfCounts() {
         String places = "place a b c d e f g h i j;";
-        fine(places, 1);
-        fault("place a b c d e f g h i j k;", 2, 26);
-        fault(places + "place a;", 2, 32);
-        fault(places + "place to;", 1, 32);
-        fault("cause a 1;cause b 1;cause", 2, 20);
-        fault("cause a 0;", 2, 8);
-        fault("cause a 10;", 2, 8);
-        fault("cause a 99999999999999999999999;", 2, 8);
-        fault("cause a 4294967297;", 2, 8);
-        fault("place s t;road s t 0;", 2, 19);
-        fault("place s t;road s t 100;", 2, 19);
-        fault("place s t;road s t 1 doubt 0;", 2, 27);
-        fault("place s t;road s t 1 doubt 10;", 2, 27);
-        fault("place s t;road s t 1 doubt 1 wait 0;", 2, 34);
-        fault("place s t;road s t 1 doubt 1 wait 100;", 2, 34);
-        fault("place s t;road s t 1 doubt 1;inn s s t 0;", 2, 39);
-        fault("place s t;road s t 1 doubt 1;inn s s t 100;", 2, 39);
+        Check.fine(places, 1);
+        Check.fault("place a b c d e f g h i j k;", 2, 26);
+        Check.fault(places + "place a;", 2, 32);
+        Check.fault(places + "place to;", 1, 32);
+        Check.fault("cause a 1;cause b 1;cause", 2, 20);
+        Check.fault("cause a 0;", 2, 8);
+        Check.fault("cause a 10;", 2, 8);
+        Check.fault("cause a 99999999999999999999999;", 2, 8);
+        Check.fault("cause a 4294967297;", 2, 8);
+        Check.fault("place s t;road s t 0;", 2, 19);
+        Check.fault("place s t;road s t 100;", 2, 19);
+        Check.fault("place s t;road s t 1 doubt 0;", 2, 27);
+        Check.fault("place s t;road s t 1 doubt 10;", 2, 27);
+        Check.fault("place s t;road s t 1 doubt 1 wait 0;", 2, 34);
+        Check.fault("place s t;road s t 1 doubt 1 wait 100;", 2, 34);
+        Check.fault("place s t;road s t 1 doubt 1;inn s s t 0;", 2, 39);
+        Check.fault("place s t;road s t 1 doubt 1;inn s s t 100;", 2, 39);
         StringBuilder roads = new StringBuilder(places);
         int told = 0;
         for (char a = 'a'; a <= 'j'; a++) {
@@ -206,58 +190,47 @@ public final class PromisesTest {
                 roads.append("road ").append(a).append(' ').append(b).append(" 1;");
             }
         }
-        fine(roads.toString(), 25);
-        fault(roads + "road", 2, roads.length());
+        Check.fine(roads.toString(), 25);
+        Check.fault(roads + "road", 2, roads.length());
         String doubts = places + "cause r 1;road a b 1 doubt 1;road a c 1 by r;road a d 1 doubt 1 by r;"
                 + "road a e 1 doubt 1;road a f 1 doubt 1;road a g 1 doubt 1;";
-        fine(doubts + "road a h 1;", 9);
-        fault(doubts + "road a h 1 doubt 1;", 2, doubts.length() + 11);
-        fault(doubts + "road a h 1 by r;", 2, doubts.length() + 11);
-        fault(doubts + "road a h 1 by to;", 2, doubts.length() + 11);
+        Check.fine(doubts + "road a h 1;", 9);
+        Check.fault(doubts + "road a h 1 doubt 1;", 2, doubts.length() + 11);
+        Check.fault(doubts + "road a h 1 by r;", 2, doubts.length() + 11);
+        Check.fault(doubts + "road a h 1 by to;", 2, doubts.length() + 11);
         String seen = "place s t u;road s t 1 doubt 1;" + "sees u s t;sees s t s;".repeat(4);
-        fine(seen, 10);
-        fault(seen + "sees", 2, seen.length());
+        Check.fine(seen, 10);
+        Check.fault(seen + "sees", 2, seen.length());
         String sold = "place s t u;road s t 1 doubt 1;" + "inn u s t 1;inn s t s 99;".repeat(3);
-        fine(sold, 8);
-        fault(sold + "inn", 2, sold.length());
+        Check.fine(sold, 8);
+        Check.fault(sold + "inn", 2, sold.length());
     }
 
     private static void faultsOfNames() {
-        fault("place s s;", 3, 8);
-        fault("place s;place t s;", 3, 16);
-        fault("cause r 1;cause r", 3, 16);
-        fine("cause s 1;place s;", 2);
-        fault("place s;from s;from", 3, 15);
-        fault("place s;to s;to 1;", 3, 13);
-        fine("place s;to s;from s;", 3);
-        fault("place s t;road s t 1;road s t 1;", 3, 28);
-        fault("place s t;road s t 1;road t s 1;", 3, 28);
-        fault("place s t;road t t 1;", 3, 17);
-        fault("place s;road s t 1;", 4, 15);
-        fault("place s;road t s 1;", 4, 13);
-        fault("place s;road t t 1;", 4, 13);
-        fault("from s;place s;", 4, 5);
-        fault("place s;to t;", 4, 11);
-        fault("place r s;road r s 1 by r;", 4, 24);
-        fault("place s t;road s t 1 by r;cause r 1;", 4, 24);
-        fault("place s t;road s t 1 doubt 1;sees u s t;", 4, 34);
-        fault("place s t;road s t 1 doubt 1;sees s u t;", 4, 36);
-        fault("place s t;road s t 1 doubt 1;sees s t u;", 4, 38);
-        fault("place s t;road s t 1 doubt 1;sees s t t;", 4, 38);
-        fault("place s t;road s t 1;sees s s t;", 4, 30);
-        fault("place s t;inn s s t 1;", 4, 18);
-        fault("place s t;sees s s t;road s t 1 doubt 1;", 4, 19);
-    }
-
-    private static int thrown(ShutPasses x, int road, int what) {
-        try {
-            x.look(road, what);
-            return 0;
-        } catch (IndexOutOfBoundsException e) {
-            return 1;
-        } catch (NoSuchElementException e) {
-            return 2;
-        }
+        Check.fault("place s s;", 3, 8);
+        Check.fault("place s;place t s;", 3, 16);
+        Check.fault("cause r 1;cause r", 3, 16);
+        Check.fine("cause s 1;place s;", 2);
+        Check.fault("place s;from s;from", 3, 15);
+        Check.fault("place s;to s;to 1;", 3, 13);
+        Check.fine("place s;to s;from s;", 3);
+        Check.fault("place s t;road s t 1;road s t 1;", 3, 28);
+        Check.fault("place s t;road s t 1;road t s 1;", 3, 28);
+        Check.fault("place s t;road t t 1;", 3, 17);
+        Check.fault("place s;road s t 1;", 4, 15);
+        Check.fault("place s;road t s 1;", 4, 13);
+        Check.fault("place s;road t t 1;", 4, 13);
+        Check.fault("from s;place s;", 4, 5);
+        Check.fault("place s;to t;", 4, 11);
+        Check.fault("place r s;road r s 1 by r;", 4, 24);
+        Check.fault("place s t;road s t 1 by r;cause r 1;", 4, 24);
+        Check.fault("place s t;road s t 1 doubt 1;sees u s t;", 4, 34);
+        Check.fault("place s t;road s t 1 doubt 1;sees s u t;", 4, 36);
+        Check.fault("place s t;road s t 1 doubt 1;sees s t u;", 4, 38);
+        Check.fault("place s t;road s t 1 doubt 1;sees s t t;", 4, 38);
+        Check.fault("place s t;road s t 1;sees s s t;", 4, 30);
+        Check.fault("place s t;inn s s t 1;", 4, 18);
+        Check.fault("place s t;sees s s t;road s t 1 doubt 1;", 4, 19);
     }
 
     private static void look() {
@@ -269,13 +242,13 @@ public final class PromisesTest {
             for (int what = 0; what < 7; what++) {
                 Check.due("look(" + road + ", " + what + ")", x.look(road, what), due[road][what]);
             }
-            Check.due("no such what", thrown(x, road, -1), 2);
-            Check.due("no such what", thrown(x, road, 7), 2);
-            Check.due("a road's fact", thrown(x, road, 0), 0);
+            Check.due("no such what", Check.thrown(x, road, -1), 2);
+            Check.due("no such what", Check.thrown(x, road, 7), 2);
+            Check.due("a road's fact", Check.thrown(x, road, 0), 0);
         }
-        Check.due("no such road", thrown(x, -1, 0), 1);
-        Check.due("no such road", thrown(x, 3, 0), 1);
-        Check.due("neither", thrown(x, 3, 7), 1);
+        Check.due("no such road", Check.thrown(x, -1, 0), 1);
+        Check.due("no such road", Check.thrown(x, 3, 0), 1);
+        Check.due("neither", Check.thrown(x, 3, 7), 1);
     }
 
     private static void worlds() {
