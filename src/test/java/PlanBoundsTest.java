@@ -32,12 +32,14 @@ public final class PlanBoundsTest {
         unlikelyWorldsDoNotCount();
         endsNotInAll();
         goingAndWaiting();
+        toAndFro();
         ties();
         sureInfers();
         inferredByOneRow();
         seenAtBothEnds();
         wordsElsewhere();
         leastTimes();
+        fairEndsUnknowing();
         fairTriesOrBuys();
         greatestTimes();
         meansFromElsewhere();
@@ -368,9 +370,9 @@ public final class PlanBoundsTest {
         Check.due("no roads at all", none.rows(0), -2);
         Check.due("no roads at all", none.scout(0, 0), -2);
         Check.due("no roads at all", none.ring(0), 0);
-        Check.due("no roads at all", none.next(3, 0, 0), -2);
-        Check.due("no roads at all", none.next(4, 0, 0), -2);
-        Check.due("no roads at all", none.next(5, 0, 0), -2);
+        for (int plan = 0; plan <= 6; plan++) {
+            Check.due("no roads at all", none.next(plan, 0, 0), -2);
+        }
         Check.due("no roads at all", none.hours(3, 0), -2);
     }
 
@@ -411,6 +413,27 @@ public final class PlanBoundsTest {
         Check.due("hours with a wait", y.hours(4, 1), 5);
         Check.due("hours", y.hours(4, 0), 2);
         Check.due("mean", y.mean(4), 5 * 2 + 5 * 5);
+    }
+
+    /** Gates along a row of places, tried in turn on its two sides: the more are shut, the longer he goes to and fro. */
+    private static void toAndFro() {
+        ShutPasses x = Check.landed("place a b c d e f g h t;from d;to t;road a b 1;road b c 1;road c d 1;road d e 1;"
+                + "road e f 1;road f g 1;road g h 1;road e t 1 doubt 5;road c t 2 doubt 5;road f t 20 doubt 5;"
+                + "road b t 30 doubt 5;road g t 45 doubt 5;road a t 60 doubt 5;road h t 90;");
+        Check.about = "to and fro";
+        int[] due = {1 + 1, 3 + 2, 6 + 20, 10 + 30, 15 + 45, 21 + 60, 28 + 90};
+        for (int open = 0; open <= 6; open++) {
+            // all before this gate are shut; those behind it do not matter
+            Check.due("hours(3, first open " + open + ")", x.hours(3, (1 << open) - 1), due[open]);
+            Check.due("hours(3, open " + open + " alone)", x.hours(3, 63 & ~(1 << open)), due[open]);
+        }
+        Check.due("worst", x.worst(3), 118);
+        Check.due("mean", x.mean(3), (2 * 32 + 5 * 16 + 26 * 8 + 40 * 4 + 60 * 2 + 81 + 118) * 15625L);
+        Check.due("knowing", x.knowing(63), 94);
+        Check.due("fear goes to h", x.hours(4, 63), 94);
+        for (int place = 0; place <= 6; place++) {
+            Check.due("all known to be shut", x.next(3, place, 728), place + 1);
+        }
     }
 
     /** 'Of several ways that are as good: GO to the least PLACE, else BUY the first WORD.' */
@@ -561,6 +584,20 @@ public final class PlanBoundsTest {
         Check.due("to the least place", by.next(2, 0, 0), 1);
     }
 
+    /** At to the road behind a is not seen: h hours straight are h by 5, by a 4 and h by h if it is shut. */
+    private static void fairEndsUnknowing() {
+        int[][] due = {{5, 5, 4}, {6, 5, 4}, {7, 5, 4}, {12, 8, 1}, {13, 9, 1}, {14, 10, 1}};
+        for (int h = 5; h <= 10; h++) {
+            ShutPasses x = Check.landed("place s a c b t;from s;to t;road s t " + h + ";road s a 2;road a c 2 doubt 5;"
+                    + "road c t 1;");
+            Check.about = "FAIR, straight in " + h;
+            Check.due("times(2, 0)", x.times(2, 0), due[h - 5][0]);
+            Check.due("times(2, 1)", x.times(2, 1), due[h - 5][1]);
+            Check.due("next(2, 0, 0)", x.next(2, 0, 0), due[h - 5][2]);
+            Check.due("worst(2)", x.worst(2), h <= 7 ? h : 4 + h);
+        }
+    }
+
     /** Open 5 by a, nine by b: straight by b 9 by 5, by a 13 by 9 if it is shut, told for h hours 5 and h by 5. */
     private static void fairTriesOrBuys() {
         int[][] due = {{6, 5, 100}, {7, 5, 100}, {13, 9, 1}, {13, 9, 1}};
@@ -603,6 +640,14 @@ public final class PlanBoundsTest {
         equal.rule(1, -1, 0, 2);
         Check.due("12 by 3 in world 0", equal.times(6, 0), 12);
         Check.due("12 by 3 in world 0", equal.times(6, 1), 3);
+        Check.due("the worst is world 0", equal.worst(6), 12);
+        ShutPasses stays = Check.landed(STRAIGHT);
+        Check.due("hours are never", stays.times(6, 0), -2);
+        Check.due("hours are never", stays.times(6, 1), -2);
+        stays.rule(0, -1, 0, 1);
+        stays.rule(1, 0, 1, 2);
+        Check.due("in the second world alone", stays.times(6, 0), -2);
+        Check.due("in the second world alone", stays.times(6, 1), -2);
         ShutPasses same = Check.landed("place s t;from s;to t;road s t 3 doubt 5 wait 3;");
         for (int plan = 0; plan <= 5; plan++) {
             Check.due("3 by 3 before 6 by 6", same.times(plan, 0), 3);
@@ -627,6 +672,10 @@ public final class PlanBoundsTest {
         Check.due("from is to", there.scout(0, 0), 0);
         Check.due("from is to", there.scout(99, 1), 0);
         Check.due("from is to", there.ring(0), -1);
+        ShutPasses two = Check.landed("place s t u;from s;to s;road s t 3 doubt 5;"
+                + "road t u 1 doubt 5;");
+        Check.due("all rows are as good", two.rows(1), 0);
+        Check.due("all rows are as good", two.rows(2), 1);
     }
 
     private static void meansFromElsewhere() {

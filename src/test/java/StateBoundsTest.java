@@ -13,6 +13,11 @@ public final class StateBoundsTest {
             + "road f j 2 doubt 1;road a j 60;road g j 1;road g a 40;road h i 1;inn j a b 1;inn g c d 1;inn e b c 2;";
     private static final String TOGETHER = "place s a b t;cause r 9;from b;to t;road s a 1;road a t 1 by r;road s b 1;"
             + "road b t 1 by r;road s t 9;inn s a t 1;";
+    /** Two gates, one behind the longest way, for which nothing that is known helps. */
+    private static final String FAR = "place s a b t;from s;to t;road s t 99;road a t 9 doubt 5;road b t 9 doubt 5;";
+    /** Both gates are worth knowing, though as the first is shut the second one is. */
+    private static final String BOTH = "place s a b t;cause r 5;from s;to t;road s a 5;road a t 1 by r;road s b 1;"
+            + "road b t 1 doubt 5 by r;road s t 9;";
     private static final String CHAIN = "place s a t;from s;to t;road s a 1 doubt 5;road a t 1 doubt 5;";
 
     public static void main(String[] args) {
@@ -24,6 +29,7 @@ public final class StateBoundsTest {
         nothingIsLeftOfOlderLands();
         manyLands();
         firstQuestions();
+        bothAreWorthKnowing();
         answersInAnyOrder();
         notBegun();
         fromIsAnyPlace();
@@ -170,7 +176,7 @@ public final class StateBoundsTest {
 
     /** Whatever was asked of a land before, the next one answers as if it were the first. */
     private static void nothingIsLeftOfOlderLands() {
-        String[] lands = {INN, OTHER, BIG, CHAIN, TOGETHER, "place s t;from s;to s;road s t 5 doubt 5;", "place s;", ""};
+        String[] lands = {INN, OTHER, BIG, CHAIN, TOGETHER, FAR, BOTH, "place s t;from s;to s;road s t 5 doubt 5;", "place s;", ""};
         for (String older : lands) {
             for (String newer : lands) {
                 Check.about = older + " then " + newer;
@@ -223,6 +229,19 @@ public final class StateBoundsTest {
                 Check.about = "question " + i + " after " + older;
                 Check.due("first", ask(x, i), ask(Check.landed(TOGETHER), i));
             }
+        }
+    }
+
+    /** 25 of 100 rows 2 hours, 25 rows 6, 50 rows 9: what can't be known adds nothing, whatever was there before. */
+    private static void bothAreWorthKnowing() {
+        for (String older : new String[] {"", FAR, INN}) {
+            ShutPasses x = Check.landed(older);
+            Portrait.of(x);
+            Check.land(x, BOTH);
+            Check.about = "after " + older;
+            Check.due("both", x.scout(0, 0), 3);
+            Check.due("both", x.scout(0, 1), 650);
+            Check.due("from", x.from(0, 5), -1);
         }
     }
 
